@@ -381,7 +381,9 @@ public final class MachineText {
         private static final long MIXER = 0x9E3779B97F4A7C15L;
         private static final int MIXED_SHIFT = 51;
 
+        // A slot holds an id and 1, so that an unused one is 0; spots are the ids' slots.
         private final int[] slots = new int[SLOTS];
+        private final int[] spots = new int[MOST_NAMES];
         private final long[] uppers = new long[MOST_NAMES];
         private final long[] lowers = new long[MOST_NAMES];
         private final int[] owners = new int[MOST_NAMES];
@@ -392,10 +394,19 @@ public final class MachineText {
         private long upper;
         private long lower;
 
+        /** The words stay. */
         void clear() {
-            Arrays.fill(slots, NONE);
-            size = 0;
-            boundSize = 0;
+            for (int id = WORD_COUNT; id < size; id++) {
+                slots[spots[id]] = 0;
+            }
+            size = Math.min(size, WORD_COUNT);
+            release(0);
+            if (size == 0) {
+                addWords();
+            }
+        }
+
+        private void addWords() {
             for (int i = 0; i < WORDS.length(); i++) {
                 if (WORDS.charAt(i) == ' ') {
                     spelled();
@@ -422,12 +433,11 @@ public final class MachineText {
         private int idOf(long high, long low) {
             int slot = (int) ((high * 31 + low) * MIXER >>> MIXED_SHIFT) & (SLOTS - 1);
             for (int turn = 0; turn < SLOTS; turn++) {
-                int id = slots[slot];
-                if (id == NONE) {
-                    slots[slot] = added(high, low);
-                    return slots[slot];
+                int id = slots[slot] - 1;
+                if (id < 0) {
+                    return added(high, low, slot);
                 }
-                if (id >= 0 && id < size && uppers[id] == high && lowers[id] == low) {
+                if (id < size && uppers[id] == high && lowers[id] == low) {
                     return id;
                 }
                 slot = (slot + 1) & (SLOTS - 1);
@@ -435,15 +445,17 @@ public final class MachineText {
             return NONE;
         }
 
-        private int added(long high, long low) {
-            if (size >= MOST_NAMES) {
+        private int added(long high, long low, int slot) {
+            if (size >= MOST_NAMES || slot < 0 || slot >= SLOTS) {
                 return NONE;
             }
+            spots[size] = slot;
             uppers[size] = high;
             lowers[size] = low;
             owners[size] = NONE;
             locals[size] = 0;
             size++;
+            slots[slot] = size;
             return size - 1;
         }
 
@@ -1827,9 +1839,11 @@ public final class MachineText {
         }
 
         private void collect() {
-            Arrays.fill(chains, NONE);
-            Arrays.fill(open, 0);
             calls = 0;
+            for (int k = 0; k < statements.size && k < MOST_STATEMENTS; k++) {
+                chains[k] = NONE;
+                open[k] = 0;
+            }
             for (int k = 0; k < statements.size; k++) {
                 int last = lastLexeme(k);
                 for (int i = statements.headOf(k) + 1; i < last; i++) {
@@ -1906,7 +1920,9 @@ public final class MachineText {
 
         /** By how few calls each helper comes to the told one. */
         private void measure(int told) {
-            Arrays.fill(distances, NONE);
+            for (int k = 0; k < statements.size && k < MOST_STATEMENTS; k++) {
+                distances[k] = NONE;
+            }
             queued = 0;
             if (!isRow(told)) {
                 return;

@@ -75,7 +75,8 @@ final class Harness {
     static void readAgain(MachineText x) {
         String answer = answerOf(() -> x.read());
         boolean sound = x.fault(0) == 0;
-        due("read() beside fault(0) " + x.fault(0), answer.equals("IllegalArgumentException"), !sound);
+        due("read() beside fault(0) " + x.fault(0), answer,
+            sound ? String.valueOf(x.count(2)) : "IllegalArgumentException");
         due("count(0) behind read()", x.count(0), 0);
     }
 

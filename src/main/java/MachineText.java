@@ -396,8 +396,11 @@ public final class MachineText {
 
         /** The words stay. */
         void clear() {
-            for (int id = WORD_COUNT; id < size; id++) {
-                slots[spots[id]] = 0;
+            for (int id = WORD_COUNT; id < size && id < MOST_NAMES; id++) {
+                int spot = spots[id];
+                if (spot >= 0 && spot < SLOTS) {
+                    slots[spot] = 0;
+                }
             }
             size = Math.min(size, WORD_COUNT);
             release(0);
@@ -487,7 +490,10 @@ public final class MachineText {
         void release(int mark) {
             while (boundSize > mark && boundSize > 0) {
                 boundSize--;
-                locals[bound[boundSize]] = 0;
+                int id = bound[boundSize];
+                if (id >= 0 && id < MOST_NAMES) {
+                    locals[id] = 0;
+                }
             }
         }
     }
@@ -531,7 +537,7 @@ public final class MachineText {
             System.arraycopy(text, 0, source, 0, length);
             size = 0;
             int from = behindWhite(0);
-            while (from < length && size < LIMIT) {
+            for (int turn = 0; from < length && turn < LIMIT; turn++) {
                 int to = cutOne(from);
                 if (to <= from) {
                     faults.note(LEXEME_FAULT, from);
@@ -1797,7 +1803,8 @@ public final class MachineText {
         private final int[] callers = new int[MOST_CALLS];
         private final int[] links = new int[MOST_CALLS];
         private int calls;
-        private final int[] open = new int[MOST_STATEMENTS];
+        // How many calls of each lead to helpers that are not taken away yet.
+        private final int[] pending = new int[MOST_STATEMENTS];
         private final int[] distances = new int[MOST_STATEMENTS];
         private final int[] queue = new int[MOST_STATEMENTS];
         private int queued;
@@ -1842,7 +1849,7 @@ public final class MachineText {
             calls = 0;
             for (int k = 0; k < statements.size && k < MOST_STATEMENTS; k++) {
                 chains[k] = NONE;
-                open[k] = 0;
+                pending[k] = 0;
             }
             for (int k = 0; k < statements.size; k++) {
                 int last = lastLexeme(k);
@@ -1860,7 +1867,7 @@ public final class MachineText {
             links[calls] = chains[called];
             chains[called] = calls;
             calls++;
-            open[caller]++;
+            pending[caller]++;
         }
 
         private boolean isRow(int k) {
@@ -1868,7 +1875,12 @@ public final class MachineText {
         }
 
         private boolean isCall(int call) {
-            return call >= 0 && call < calls;
+            return call >= 0 && call < calls && call < MOST_CALLS;
+        }
+
+        /** The first of the calls of a helper, NONE without. */
+        private int chainOf(int k) {
+            return isRow(k) ? chains[k] : NONE;
         }
 
         /** The lexeme that ends a helper; none of another statement's is looked at. */
@@ -1900,22 +1912,27 @@ public final class MachineText {
         private boolean isFree() {
             queued = 0;
             for (int k = 0; k < statements.size; k++) {
-                if (isRow(k) && open[k] == 0) {
+                if (isRow(k) && pending[k] == 0) {
                     enqueue(k);
                 }
             }
-            for (int i = 0; i < queued; i++) {
-                int call = chains[queue[i]];
+            for (int i = 0; i < queued && i < MOST_STATEMENTS; i++) {
+                int call = chainOf(queue[i]);
                 for (int turn = 0; isCall(call) && turn < calls; turn++) {
-                    int caller = callers[call];
-                    open[caller]--;
-                    if (open[caller] == 0) {
-                        enqueue(caller);
-                    }
+                    settleOne(callers[call]);
                     call = links[call];
                 }
             }
             return queued >= statements.size;
+        }
+
+        private void settleOne(int caller) {
+            if (isRow(caller)) {
+                pending[caller]--;
+                if (pending[caller] == 0) {
+                    enqueue(caller);
+                }
+            }
         }
 
         /** By how few calls each helper comes to the told one. */
@@ -1929,16 +1946,20 @@ public final class MachineText {
             }
             distances[told] = 0;
             enqueue(told);
-            for (int i = 0; i < queued; i++) {
-                int call = chains[queue[i]];
+            for (int i = 0; i < queued && i < MOST_STATEMENTS; i++) {
+                int called = queue[i];
+                int call = chainOf(called);
                 for (int turn = 0; isCall(call) && turn < calls; turn++) {
-                    int caller = callers[call];
-                    if (distances[caller] == NONE) {
-                        distances[caller] = distances[queue[i]] + 1;
-                        enqueue(caller);
-                    }
+                    reach(callers[call], called);
                     call = links[call];
                 }
+            }
+        }
+
+        private void reach(int caller, int called) {
+            if (isRow(caller) && isRow(called) && distances[caller] == NONE) {
+                distances[caller] = distances[called] + 1;
+                enqueue(caller);
             }
         }
 

@@ -41,7 +41,7 @@ public final class FeedTest {
     /** What is printed is longer than what was fed, so the limit is come to with few calls. */
     private static void limit() {
         for (int last = 8175; last <= 8178; last++) {
-            MachineText x = ofLength(last);
+            MachineText x = Harness.ofLength(last);
             boolean fits = last + 16 <= 8192;
             Harness.dueCall("feed at " + last, () -> x.feed(0, 0, 0, 0), fits ? last + 16 : "IllegalStateException");
             Harness.due("count(0)", x.count(0), fits ? last + 16 : last);
@@ -51,22 +51,5 @@ public final class FeedTest {
             full.feed(0x20202020, 0x20202020, 0x20202020, 0x20202020);
         }
         Harness.due("feed", full.feed(0, 0, 0, 0), 8192);
-    }
-
-    /** An object whose text has so many bytes. */
-    private static MachineText ofLength(int bytes) {
-        String head = "word 1;reg a 1;ins i 1{";
-        int body = bytes - "word 1;\nreg a 1;\nins i 1 { }\n".length();
-        StringBuilder text = new StringBuilder(head);
-        // "a = a; " has seven bytes, a further blank sign two.
-        for (int i = 0; i < body / 7; i++) {
-            int more = i < body % 7 ? 1 : 0;
-            text.append("a=").append(more > 0 ? "~" : "").append("a;");
-        }
-        text.append("}");
-        MachineText x = Harness.read(text.toString());
-        Harness.due("print()", x.print(), bytes);
-        Harness.due("again()", x.again(), bytes);
-        return x;
     }
 }

@@ -46,6 +46,59 @@ final class Harness {
         due(name, answerOf(call), want);
     }
 
+    /** A call that is refused: it throws what is due, and leaves all that can be asked for alone. */
+    static void dueRefused(String name, MachineText x, Call call, String exception) {
+        String before = stateOf(x);
+        dueCall(name, call, exception);
+        due("all the rest behind the refused " + name, stateOf(x), before);
+    }
+
+    /** All that an object answers without being changed by it. */
+    static String stateOf(MachineText x) {
+        StringBuilder all = new StringBuilder();
+        for (int what = 0; what <= 4; what++) {
+            all.append(x.count(what)).append(' ');
+        }
+        all.append(x.fault(0)).append('@').append(x.fault(1));
+        for (int k = 0; k < x.count(2); k++) {
+            int at = k;
+            for (int what = 0; what <= 4; what++) {
+                all.append(' ').append(x.statement(k, what));
+            }
+            all.append(' ').append(answerOf(() -> x.bits(at, 0))).append(' ').append(answerOf(() -> x.bits(at, 1)));
+        }
+        for (int k = 0; k < x.count(3); k++) {
+            for (int what = -1; what <= 6; what++) {
+                all.append(' ').append(x.node(k, what));
+            }
+        }
+        String ring = answerOf(() -> x.ring(0));
+        for (int k = 1; !ring.equals("IndexOutOfBoundsException"); k++) {
+            int at = k;
+            all.append(" ring ").append(ring);
+            ring = answerOf(() -> x.ring(at));
+        }
+        for (int i = 0; i < x.count(4); i++) {
+            all.append((char) x.out(i));
+        }
+        return all.toString();
+    }
+
+    /** An object whose text is so many bytes long, come to with few calls by way of print and again. */
+    static MachineText ofLength(int bytes) {
+        String head = "word 1;reg a 1;ins i 1{";
+        int body = bytes - "word 1;\nreg a 1;\nins i 1 { }\n".length();
+        StringBuilder text = new StringBuilder(head);
+        // "a = a; " has seven bytes, a sign before the value one more.
+        for (int i = 0; i < body / 7; i++) {
+            text.append(i < body % 7 ? "a=~a;" : "a=a;");
+        }
+        MachineText x = read(text.append("}").toString());
+        due("print()", x.print(), bytes);
+        due("again()", x.again(), bytes);
+        return x;
+    }
+
     static void feed(MachineText x, String text) {
         byte[] bytes = text.getBytes(StandardCharsets.ISO_8859_1);
         for (int i = 0; i < bytes.length; i += 16) {

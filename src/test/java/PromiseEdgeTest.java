@@ -50,6 +50,7 @@ public final class PromiseEdgeTest {
         printAnswers();
         printRefused();
         outAnswers();
+        outStays();
         outWithout();
         againAnswers();
         againRefused();
@@ -632,6 +633,38 @@ public final class PromiseEdgeTest {
             int size = text.length();
             Harness.dueCall("behind the last", () -> x.out(size), INDEX);
         }
+    }
+
+    /** 11: Byte i of what was printed last; 4: What was read before is gone, which is not what was printed. */
+    private static void outStays() {
+        String due = "word 8;\nreg a 8;\n";
+        for (String text : FAULTY) {
+            MachineText x = Harness.read("word 8;reg a 8;");
+            x.print();
+            Harness.feed(x, text);
+            dueOut(x, due, "with another text there");
+            Harness.readAgain(x);
+            dueOut(x, due, "behind the faulty " + text);
+            Harness.dueCall("print()", () -> x.print(), STATE);
+            dueOut(x, due, "behind the refused print()");
+            Harness.dueCall("again()", () -> x.again(), due.length());
+            dueOut(x, due, "behind again()");
+            Harness.dueCall("read()", () -> x.read(), 1);
+            dueOut(x, due, "behind a sound read()");
+            Harness.feed(x, "word 7;");
+            Harness.dueCall("read()", () -> x.read(), 0);
+            dueOut(x, due, "behind another sound read()");
+            Harness.dueCall("print()", () -> x.print(), 8);
+            dueOut(x, "word 7;\n", "behind the next print()");
+        }
+    }
+
+    private static void dueOut(MachineText x, String want, String when) {
+        StringBuilder all = new StringBuilder();
+        for (int i = 0; i < x.count(4); i++) {
+            all.append((char) x.out(i));
+        }
+        Harness.due("what was printed last, " + when, all, want);
     }
 
     /** 11: IndexOutOfBoundsException, when there is none. */

@@ -20,6 +20,7 @@ public final class WidthEdgeTest {
         assignments();
         conditions();
         helpers();
+        bracketed();
         bits();
         order();
         nodes();
@@ -297,6 +298,27 @@ public final class WidthEdgeTest {
                 dueOf(width, width, told, told == width ? "(p + q)" : "$(p + q)");
             }
         }
+    }
+
+    /** if and def: both by the expression's first lexeme, which a bracket is; and told there alone. */
+    private static void bracketed() {
+        String[] marked = {
+            "$p", "$(p)", "$((p))", "$( (p) )", "$(p + q)", "$((p) + (q))", "$(p) + q", "$((p + q)) * p", "$~(p)", "$(~p)",
+            "$(p).7:1", "$((p).7:1)", "$(b ? p : q)", "$(b) ? p : q", "$((b) ? (p) : q)", "$(R[(1:1)])", "$R[(1:1)]",
+            "$(sx((p), 9))", "$cat((p), q)"
+        };
+        String head = "word 9; reg b 1; reg p 8; reg q 8; reg R[2] 8; ";
+        for (String expression : marked) {
+            Harness.dueFaultAt(9, head + "ins i 000000000 { if " + expression + " { } }");
+            Harness.dueFaultAt(9, head + "ins i 000000000 { if" + expression.replace("$", " # (\n$") + "{} else { if b { } } }");
+            Harness.dueFaultAt(9, head + "def f() 2 = " + expression + ";");
+            Harness.dueFaultAt(9, head + "def f()2=" + expression.replace("$", " # (\n$") + ";");
+        }
+        // An expression that is wrong in brackets is told by its own first lexeme, and nothing more is asked.
+        Harness.dueFaultAt(9, head + "def f() 2 = ($p + b);");
+        Harness.dueFaultAt(9, head + "def f() 2 = (($(p) + b));");
+        Harness.dueFaultAt(9, head + "ins i 000000000 { if ($p + b) { } }");
+        Harness.dueFaultAt(9, head + "ins i 000000000 { if (($(p) + b)) { } }");
     }
 
     /** 10 BITS: an instruction's parts have not as many bits as word says (told by its NAME). */
